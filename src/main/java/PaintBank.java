@@ -11,6 +11,7 @@ public final class PaintBank {
     private static final int MAX_COLORS = 5;
     private static final int MAX_LANES = 4;
     private static final int MAX_CARS = 12;
+    private static final int MAX_BODIES = 4;
     private static final int MAX_BATCH = 9;
     private static final int LAST_TIME = 9999;
     private static final int MAX_LOOK = 300;
@@ -88,12 +89,12 @@ public final class PaintBank {
         }
         history.draft(line);
         int edits = line.edits;
-        script.play(0, script.count, 0);
+        int done = script.play();
         // A command that is not counted may have been done in part.
-        if (script.done > 0 || line.edits != edits) {
+        if (done > 0 || line.edits != edits) {
             history.keep();
         }
-        return script.done;
+        return done;
     }
 
     public int errorCode() {
@@ -459,24 +460,39 @@ public final class PaintBank {
     private enum Word {
         COLOR("color"), CHANGE("change"), LANE("lane"), CAR("car"), BODY("body"), BAD("bad"),
         WINDOW("window"), BATCH("batch"), PURGE("purge"), REWORK("rework"), DELAY("delay"),
-        SPAN("span"), ENTER("enter"), LEAVE("leave"), BACK("back"), WAIT("wait"), STEP("step"),
-        UNLOAD("unload"), SWAP("swap"), REPEAT("repeat"), OTHER("");
+        SPAN("span"), ENTER("enter", 0, 3), LEAVE("leave", 0, 3), BACK("back", 0, 3),
+        WAIT("wait", 1, 99), STEP("step", 1, 99), UNLOAD("unload", 0, 0), SWAP("swap", 0, 0),
+        REPEAT("repeat", 1, 20), OTHER("");
 
         private static final Word[] ALL = values();
 
         private final long letters;
+        final boolean isCommand;
+        // The limits of a command's number; 0 and 0 if it has none.
+        final int least;
+        final int greatest;
 
         Word(String spelling) {
-            long packed = 0;
-            for (int i = 0; i < spelling.length(); i++) {
-                packed = withLetter(packed, spelling.charAt(i));
-            }
-            letters = packed;
+            letters = packed(spelling);
+            isCommand = false;
+            least = 0;
+            greatest = 0;
+        }
+
+        Word(String spelling, int least, int greatest) {
+            letters = packed(spelling);
+            isCommand = true;
+            this.least = least;
+            this.greatest = greatest;
         }
 
         /** Eight letters fill a long, a byte each, so that words can be compared as numbers. */
-        static long withLetter(long packed, int letter) {
-            return packed << 8 | letter;
+        private static long packed(String spelling) {
+            long letters = 0;
+            for (int i = 0; i < spelling.length(); i++) {
+                letters = letters << 8 | spelling.charAt(i);
+            }
+            return letters;
         }
 
         static Word spelled(long letters) {
@@ -594,7 +610,7 @@ public final class PaintBank {
         private void readWord() {
             letters = 0;
             while (at < length && isLetter(bytes[at])) {
-                letters = Word.withLetter(letters, bytes[at]);
+                letters = letters << 8 | bytes[at];
                 at++;
             }
             kind = at - start <= MAX_LETTERS ? WORD : INVALID;
@@ -819,19 +835,14 @@ public final class PaintBank {
                 return false;
             }
             draft.carBody[car] = text.number;
-            draft.cars = car + 1;
-            return readBad(car);
-        }
-
-        private boolean readBad(int car) {
             draft.carBad[car] = 0;
-            if (!text.takeIfNext(Word.BAD)) {
-                return true;
+            if (text.takeIfNext(Word.BAD)) {
+                if (!text.takeNumber(0, 2)) {
+                    return false;
+                }
+                draft.carBad[car] = text.number;
             }
-            if (!text.takeNumber(0, 2)) {
-                return false;
-            }
-            draft.carBad[car] = text.number;
+            draft.cars = car + 1;
             return true;
         }
 
@@ -906,7 +917,7 @@ public final class PaintBank {
         }
 
         int last() {
-            return at(count - 1);
+            return count > 0 ? numbers[count - 1] : NONE;
         }
 
         int find(int number) {
@@ -1283,7 +1294,8 @@ public final class PaintBank {
         private int plannedAt = -1;
         final Row best = new Row();
         boolean allowed;
-        boolean complete;
+        // Whether at the latest carrying out all cars left, and none failed.
+        boolean completed;
         int price;
         int colorChanges;
 
@@ -1386,9 +1398,9 @@ public final class PaintBank {
             }
         }
 
-        /** Lets the cars leave by the plan, which stands; answers how many did. */
+        /** Lets the cars leave by the plan, until one cannot or fails; answers how many did. */
         int carryOut() {
-            complete = false;
+            completed = false;
             for (int left = 0; left < best.count; left++) {
                 int car = line.paintFrom(best.at(left));
                 if (car == NONE) {
@@ -1398,7 +1410,7 @@ public final class PaintBank {
                     return left + 1;
                 }
             }
-            complete = true;
+            completed = true;
             return best.count;
         }
     }
@@ -1413,6 +1425,9 @@ public final class PaintBank {
         private final Setup setup;
         private final Line line;
         private final int[] memo = new int[1 << MAX_CARS];
+        // For each body and color, a bit for each waiting car of this kind.
+        private final int[] jobsOfKind = new int[MAX_BODIES * MAX_COLORS];
+        private final int[] bodyAt = new int[MAX_CARS];
         private int count;
         private int plannedAt = -1;
         final Row best = new Row();
@@ -1429,13 +1444,16 @@ public final class PaintBank {
             }
             plannedAt = line.edits;
             Arrays.fill(memo, UNKNOWN);
+            Arrays.fill(jobsOfKind, 0);
             count = line.waitingCount();
-            best.count = 0;
-            colorChanges = 0;
-            if (count > 0) {
-                colorChanges = fewestOfAll(waysFrom(0, 0));
-                collectColors();
+            for (int place = 0; place < count; place++) {
+                int car = line.entered + place;
+                bodyAt[place] = setup.carBody[car];
+                jobsOfKind[bodyAt[place] * MAX_COLORS + line.color[car]] |= 1 << place;
             }
+            colorChanges = fewestOfAll(waysFrom(0, 0));
+            best.count = 0;
+            collectColors();
         }
 
         /** The fewest changes from a place on, for each color there, when these jobs are used. */
@@ -1448,22 +1466,15 @@ public final class PaintBank {
             }
             int ways = 0;
             for (int color = 0; color < MAX_COLORS; color++) {
-                ways |= fewestWith(color, place, used) << color * BITS;
+                int job = firstJob(color, place, used);
+                int fewest = IMPOSSIBLE;
+                if (job != NONE) {
+                    fewest = fewestBehind(color, waysFrom(place + 1, used | 1 << job));
+                }
+                ways |= fewest << color * BITS;
             }
             memo[used] = ways;
             return ways;
-        }
-
-        private int fewestWith(int color, int place, int used) {
-            int job = firstJob(color, place, used);
-            if (job == NONE) {
-                return IMPOSSIBLE;
-            }
-            if (place + 1 >= count) {
-                return 0;
-            }
-            int ways = waysFrom(place + 1, used | 1 << job);
-            return Math.min(fewestOf(ways, color), Math.min(fewestOfAll(ways) + 1, IMPOSSIBLE));
         }
 
         /**
@@ -1471,19 +1482,20 @@ public final class PaintBank {
          * be done with it, too. If it is too far away, the color cannot be had here.
          */
         private int firstJob(int color, int place, int used) {
-            int body = setup.carBody[carAt(place)];
-            for (int job = 0; job < count; job++) {
-                int car = carAt(job);
-                boolean free = (used >> job & 1) == 0;
-                if (free && line.color[car] == color && setup.carBody[car] == body) {
-                    return Math.abs(job - place) <= setup.span ? job : NONE;
-                }
+            if (color < 0 || color >= MAX_COLORS) {
+                return NONE;
             }
-            return NONE;
+            int free = jobsOfKind[bodyAt[place] * MAX_COLORS + color] & ~used;
+            if (free == 0) {
+                return NONE;
+            }
+            int job = Integer.bitCount((free & -free) - 1);
+            return Math.abs(job - place) <= setup.span ? job : NONE;
         }
 
-        private int carAt(int place) {
-            return Math.min(line.entered + place, MAX_CARS - 1);
+        private static int fewestBehind(int color, int ways) {
+            int withChange = Math.min(fewestOfAll(ways) + 1, IMPOSSIBLE);
+            return Math.min(fewestOf(ways, color), withChange);
         }
 
         private static int fewestOf(int ways, int color) {
@@ -1493,7 +1505,7 @@ public final class PaintBank {
         private static int fewestOfAll(int ways) {
             int fewest = IMPOSSIBLE;
             for (int color = 0; color < MAX_COLORS; color++) {
-                fewest = Math.min(fewest, fewestOf(ways, color));
+                fewest = Math.min(fewest, ways >> color * BITS & IMPOSSIBLE);
             }
             return fewest;
         }
@@ -1529,7 +1541,7 @@ public final class PaintBank {
         int carryOut() {
             int changed = 0;
             for (int place = 0; place < best.count; place++) {
-                int car = carAt(place);
+                int car = line.entered + place;
                 if (line.color[car] != best.at(place)) {
                     line.color[car] = best.at(place);
                     changed++;
@@ -1547,35 +1559,38 @@ public final class PaintBank {
         private static final int MAX_COMMANDS = 40;
         private static final int MAX_DONE = 100;
         private static final int MAX_NESTING = 2;
+        // Far above what two nested repeats of 20 times can need.
+        private static final int MAX_TURNS = 1000000;
 
         private final Text text;
         private final Line line;
         private final Unloading unloading;
         private final Exchange exchange;
-        private final Word[] commands = new Word[MAX_COMMANDS];
-        private final int[] numbers = new int[MAX_COMMANDS];
-        // Of a "repeat" the last command in its brackets; of another command itself.
-        private final int[] lastInside = new int[MAX_COMMANDS];
+        // Each "repeat" has a closing bracket, too, which is kept as the word OTHER.
+        private final Word[] words = new Word[2 * MAX_COMMANDS];
+        // The number of a command; of a closing bracket the index of its "repeat".
+        private final int[] numbers = new int[2 * MAX_COMMANDS];
+        private final int[] timesLeft = new int[2 * MAX_COMMANDS];
         private final int[] openRepeats = new int[MAX_NESTING];
         private int nesting;
-        int count;
-        int done;
+        private int commands;
+        private int size;
 
         Script(Text text, Line line, Unloading unloading, Exchange exchange) {
             this.text = text;
             this.line = line;
             this.unloading = unloading;
             this.exchange = exchange;
-            for (int i = 0; i < MAX_COMMANDS; i++) {
-                commands[i] = Word.OTHER;
+            for (int i = 0; i < words.length; i++) {
+                words[i] = Word.OTHER;
             }
         }
 
         boolean readAll() {
             text.rewind();
-            count = 0;
             nesting = 0;
-            done = 0;
+            commands = 0;
+            size = 0;
             for (int parts = 0; parts <= MAX_BYTES; parts++) {
                 text.advance();
                 if (text.kind == Text.END) {
@@ -1594,82 +1609,70 @@ public final class PaintBank {
                 return text.fail(Text.NOT_ALLOWED);
             }
             nesting--;
-            lastInside[openRepeats[nesting]] = count - 1;
+            add(Word.OTHER, openRepeats[nesting]);
             return text.takeSemicolon();
         }
 
         private boolean readCommand() {
-            Word word = text.kind == Text.WORD ? text.word : Word.OTHER;
-            switch (word) {
-                case ENTER:
-                case LEAVE:
-                case BACK:
-                    return startCommand(word) && readNumber(0, 3) && text.takeSemicolon();
-                case WAIT:
-                case STEP:
-                    return startCommand(word) && readNumber(1, 99) && text.takeSemicolon();
-                case UNLOAD:
-                case SWAP:
-                    return startCommand(word) && text.takeSemicolon();
-                case REPEAT:
-                    return readRepeat();
-                default:
-                    return text.fail(Text.NOT_ALLOWED);
+            Word word = text.word;
+            if (text.kind != Text.WORD || !word.isCommand) {
+                return text.fail(Text.NOT_ALLOWED);
             }
-        }
-
-        private boolean startCommand(Word word) {
-            if (count >= MAX_COMMANDS) {
-                return text.fail(Text.TOO_MANY);
-            }
-            commands[count] = word;
-            numbers[count] = 0;
-            lastInside[count] = count;
-            count++;
-            return true;
-        }
-
-        private boolean readNumber(int least, int greatest) {
-            if (!text.takeNumber(least, greatest)) {
-                return false;
-            }
-            numbers[count - 1] = text.number;
-            return true;
-        }
-
-        private boolean readRepeat() {
-            if (nesting >= MAX_NESTING) {
+            if (word == Word.REPEAT && nesting >= MAX_NESTING) {
                 return text.fail(Text.TOO_DEEP);
             }
-            if (!startCommand(Word.REPEAT) || !readNumber(1, 20) || !text.takeOpening()) {
+            if (commands >= MAX_COMMANDS) {
+                return text.fail(Text.TOO_MANY);
+            }
+            commands++;
+            if (word.greatest > 0 && !text.takeNumber(word.least, word.greatest)) {
                 return false;
             }
-            openRepeats[nesting] = count - 1;
-            nesting++;
-            return true;
+            add(word, text.number);
+            if (word == Word.REPEAT) {
+                openRepeats[nesting] = size - 1;
+                nesting++;
+                return text.takeOpening();
+            }
+            return text.takeSemicolon();
         }
 
-        /** Plays the commands from an index up to another; answers false when the script ends. */
-        boolean play(int from, int to, int depth) {
-            if (from < 0 || to > MAX_COMMANDS || depth > MAX_NESTING) {
-                return false;
+        private void add(Word word, int number) {
+            if (size < words.length) {
+                words[size] = word;
+                numbers[size] = number;
+                size++;
             }
-            for (int i = from; i < to; i++) {
-                if (commands[i] == Word.REPEAT) {
-                    for (int times = 0; times < numbers[i]; times++) {
-                        if (!play(i + 1, lastInside[i] + 1, depth + 1)) {
-                            return false;
-                        }
-                    }
-                    i = Math.max(i, lastInside[i]);
+        }
+
+        /** Answers the number of commands that were done. */
+        int play() {
+            int done = 0;
+            int at = 0;
+            for (int turn = 0; turn < MAX_TURNS && at < size; turn++) {
+                if (words[at] == Word.REPEAT) {
+                    timesLeft[at] = numbers[at];
+                    at++;
+                } else if (words[at] == Word.OTHER) {
+                    at = behindBracket(at);
                 } else {
-                    if (done >= MAX_DONE || !carryOut(commands[i], numbers[i])) {
-                        return false;
+                    if (done >= MAX_DONE || !carryOut(words[at], numbers[at])) {
+                        return done;
                     }
                     done++;
+                    at++;
                 }
             }
-            return true;
+            return done;
+        }
+
+        private int behindBracket(int at) {
+            int opening = numbers[at];
+            if (opening < 0 || opening >= at) {
+                return at + 1;
+            }
+            timesLeft[opening]--;
+            return timesLeft[opening] > 0 ? opening + 1 : at + 1;
         }
 
         private boolean carryOut(Word command, int number) {
@@ -1679,8 +1682,16 @@ public final class PaintBank {
                 case BACK: return line.comeBack(number) != NONE;
                 case WAIT: return waitTimes(number);
                 case STEP: return stepTimes(number);
-                case UNLOAD: return unloadAll();
-                case SWAP: return swapJobs();
+                case UNLOAD:
+                    unloading.plan();
+                    if (unloading.allowed) {
+                        unloading.carryOut();
+                    }
+                    return unloading.allowed && unloading.completed;
+                case SWAP:
+                    exchange.plan();
+                    exchange.carryOut();
+                    return true;
                 default: return false;
             }
         }
@@ -1700,21 +1711,6 @@ public final class PaintBank {
                     return false;
                 }
             }
-            return true;
-        }
-
-        private boolean unloadAll() {
-            unloading.plan();
-            if (!unloading.allowed) {
-                return false;
-            }
-            unloading.carryOut();
-            return unloading.complete;
-        }
-
-        private boolean swapJobs() {
-            exchange.plan();
-            exchange.carryOut();
             return true;
         }
     }
