@@ -442,7 +442,7 @@ public final class PaintBank {
         return answer;
     }
 
-    /** Makes steps on a copy of the line, until the car (if not NONE) is out; answers their number. */
+    /** Steps on a copy of the line until the car, if not NONE, is out; answers their number. */
     private int lookAhead(int steps, int car) {
         lookout.copyFrom(line);
         for (int made = 0; made < steps; made++) {
@@ -626,7 +626,7 @@ public final class PaintBank {
             kind = at - start <= MAX_DIGITS ? NUMBER : INVALID;
         }
 
-        private static int kindOfMark(byte mark) {
+        private static int kindOfMark(int mark) {
             switch (mark) {
                 case ';': return SEMICOLON;
                 case '(': return OPEN;
@@ -1309,9 +1309,8 @@ public final class PaintBank {
                 return;
             }
             plannedAt = line.edits;
-            Arrays.fill(least, UNKNOWN);
             total = line.carsInLanes();
-            weighLanes();
+            forgetWorths(weighLanes());
             int worth = worthOfRest(0, 0, line.hose, line.run);
             allowed = worth < IMPOSSIBLE;
             price = worth / PER_PRICE;
@@ -1322,13 +1321,24 @@ public final class PaintBank {
             }
         }
 
-        /** Weights by which the sum over the cars taken tells how many of each lane they are. */
-        private void weighLanes() {
+        /**
+         * Weights by which the sum over the cars taken, the position, tells how many of each lane
+         * they are; answers how many positions there are.
+         */
+        private int weighLanes() {
             int product = 1;
             for (int lane = 0; lane < MAX_LANES; lane++) {
                 taken[lane] = 0;
                 weight[lane] = product;
                 product *= line.lanes[lane].count + 1;
+            }
+            return product;
+        }
+
+        private void forgetWorths(int positions) {
+            int keys = Math.min(positions * MAX_COLORS * MAX_BATCH, least.length);
+            for (int key = 0; key < keys; key++) {
+                least[key] = UNKNOWN;
             }
         }
 
@@ -1443,9 +1453,9 @@ public final class PaintBank {
                 return;
             }
             plannedAt = line.edits;
-            Arrays.fill(memo, UNKNOWN);
-            Arrays.fill(jobsOfKind, 0);
             count = line.waitingCount();
+            forgetWays();
+            Arrays.fill(jobsOfKind, 0);
             for (int place = 0; place < count; place++) {
                 int car = line.entered + place;
                 bodyAt[place] = setup.carBody[car];
@@ -1454,6 +1464,13 @@ public final class PaintBank {
             colorChanges = fewestOfAll(waysFrom(0, 0));
             best.count = 0;
             collectColors();
+        }
+
+        private void forgetWays() {
+            int sets = Math.min(1 << count, memo.length);
+            for (int used = 0; used < sets; used++) {
+                memo[used] = UNKNOWN;
+            }
         }
 
         /** The fewest changes from a place on, for each color there, when these jobs are used. */

@@ -244,6 +244,11 @@ public final class LineTest {
         DUE.same("the part stays", part.time(), 9999);
         DUE.same("and is undone with the rest", part.undo(), 1);
         DUE.same("time then", part.time(), 9900);
+        Due.play(part, "wait 98;");
+        DUE.same("a part alone", Due.play(part, "wait 2;"), 0);
+        DUE.same("it stays, too", part.time(), 9999);
+        DUE.same("and is undone, though not counted", part.undo(), 2);
+        DUE.same("time before it", part.time(), 9998);
     }
 
     private static void moves() {
