@@ -71,6 +71,9 @@ public final class ModelTest {
             type(texts.setup());
             call("readSetup");
         }
+        if (dice.once(15)) {
+            nearTheEndOfTime();
+        }
         if (dice.once(2)) {
             fillLanes();
         }
@@ -79,6 +82,13 @@ public final class ModelTest {
         }
         observe();
         return right;
+    }
+
+    private void nearTheEndOfTime() throws ReflectiveOperationException {
+        type("repeat 20 (repeat 20 (wait 99;););");
+        call("runScript");
+        type("wait " + dice.between(75, 99) + ";");
+        call("runScript");
     }
 
     private void fillLanes() throws ReflectiveOperationException {
