@@ -6,25 +6,40 @@ final class Due {
 
     private int checked;
     private int wrong;
+    private int sentences;
+    private String sentence = "";
 
     interface Call {
         void make();
     }
 
+    /** The document's words that the answers from here on are due by; told with each wrong one. */
+    void sentence(String words) {
+        sentences++;
+        sentence = "\"" + words + "\": ";
+    }
+
     void same(String what, long got, long want) {
         checked++;
         if (got != want) {
-            wrong++;
-            System.out.println(what + " answered " + got + ", due is " + want);
+            tellWrong(what + " answered " + got + ", due is " + want);
         }
     }
 
     void same(String what, String got, String want) {
         checked++;
         if (!got.equals(want)) {
-            wrong++;
-            System.out.println(what + " answered " + got + ", due is " + want);
+            tellWrong(what + " answered " + got + ", due is " + want);
         }
+    }
+
+    void none(String what, long got) {
+        same(what, got, PaintBank.NONE);
+    }
+
+    private void tellWrong(String words) {
+        wrong++;
+        System.out.println(sentence + words);
     }
 
     void yes(String what, boolean got) {
@@ -57,13 +72,13 @@ final class Due {
         }
         checked++;
         if (got != want) {
-            wrong++;
-            System.out.println(what + " threw " + got + ", due is " + want);
+            tellWrong(what + " threw " + got + ", due is " + want);
         }
     }
 
     void end() {
-        System.out.println(checked + " answers checked, " + wrong + " not as due");
+        String of = sentences > 0 ? " by " + sentences + " sentences" : "";
+        System.out.println(checked + " answers checked" + of + ", " + wrong + " not as due");
         if (wrong != 0 || checked == 0) {
             System.exit(1);
         }
