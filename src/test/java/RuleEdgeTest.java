@@ -263,6 +263,12 @@ public final class RuleEdgeTest {
         DUE.same("b again", bank.out(1), 3);
         bank.step();
         DUE.same("no b: the least number", bank.out(2), 1);
+        PaintBank low = after("lane 6;lane 6;lane 6;lane 6;" + cars("abca"), "enter 0;enter 1;enter 2;enter 3;");
+        int[] order = {0, 3, 1, 2};
+        for (int i = 0; i < 4; i++) {
+            low.step();
+            DUE.same("no color, a again, then the least number in a lower lane", low.out(i), order[i]);
+        }
         PaintBank zero = after("lane 6;lane 6;" + cars("ba"), "enter 1;enter 0;");
         zero.step();
         DUE.same("no color is not color 0", zero.out(0), 0);

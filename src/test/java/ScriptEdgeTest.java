@@ -301,6 +301,12 @@ public final class ScriptEdgeTest {
                 DUE.same("time", bank.time(), 1);
                 DUE.same("no exception, no error", bank.errorCode(), 0);
                 done("wait 1;" + word + "3;wait 1;", bank, 1);
+                // Nor does a lane of an earlier setup exist.
+                PaintBank later = Due.with(COLORS + LANES + CAR);
+                Due.type(later, COLORS + "lane 6;".repeat(lanes) + CAR);
+                later.readSetup();
+                done("wait 1;" + word + lanes + ";wait 1;", later, 1);
+                DUE.same("waiting", later.waiting(), 1);
             }
         }
     }

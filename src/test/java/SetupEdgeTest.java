@@ -321,6 +321,23 @@ public final class SetupEdgeTest {
         wrong(FIVE_COLORS + "car f body 0;", 4, FIVE_COLORS.length() + 4);
         wrong("color ab change 1;car a body 0;", 4, 22);
         wrong("color a change 1;car aa body 0;", 4, 21);
+        PaintBank later = Due.with(FIVE_COLORS);
+        DUE.same("the same names in a later setup", again(later, FIVE_COLORS), 5);
+        DUE.none("a color of an earlier setup", again(later, "color x change 1;car b body 0;"));
+        DUE.same("its code", later.errorCode(), 4);
+        DUE.none("the first one of an earlier setup", again(later, "car a body 0;"));
+        DUE.same("its code", later.errorCode(), 4);
+        DUE.same("the setup before the errors", later.setting(0), 5);
+    }
+
+    /** Reads one more setup; answers NONE if it has an error. */
+    private static int again(PaintBank bank, String setup) {
+        Due.type(bank, setup);
+        try {
+            return bank.readSetup();
+        } catch (IllegalArgumentException e) {
+            return PaintBank.NONE;
+        }
     }
 
     private static void bodyRange() {
