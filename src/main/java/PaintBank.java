@@ -11,7 +11,6 @@ public final class PaintBank {
     private static final int MAX_COLORS = 5;
     private static final int MAX_LANES = 4;
     private static final int MAX_CARS = 12;
-    private static final int MAX_BODIES = 4;
     private static final int MAX_BATCH = 9;
     private static final int LAST_TIME = 9999;
     private static final int MAX_LOOK = 300;
@@ -703,6 +702,14 @@ public final class PaintBank {
             System.arraycopy(other.carBad, 0, carBad, 0, MAX_CARS);
         }
 
+        int bodyOfCar(int car) {
+            return car < 0 || car >= MAX_CARS ? NONE : carBody[car];
+        }
+
+        long nameOfColor(int color) {
+            return color < 0 || color >= MAX_COLORS ? 0 : colorName[color];
+        }
+
         int colorNamed(long name) {
             for (int color = 0; color < colors; color++) {
                 if (colorName[color] == name) {
@@ -725,7 +732,7 @@ public final class PaintBank {
 
         int priceOf(int events, int color) {
             if ((events & CHANGE) != 0) {
-                return changePrice[color];
+                return color < 0 || color >= MAX_COLORS ? 0 : changePrice[color];
             }
             return (events & PURGE) != 0 ? purgePrice : 0;
         }
@@ -1051,8 +1058,21 @@ public final class PaintBank {
             return car < 0 || car >= MAX_CARS ? NONE : color[car];
         }
 
+        /** Gives a car another job; answers whether its color is another one then. */
+        boolean recolor(int car, int job) {
+            if (car < 0 || car >= MAX_CARS || color[car] == job) {
+                return false;
+            }
+            color[car] = job;
+            edits++;
+            return true;
+        }
+
         /** How many cars from a number on are of the same kind as a car. */
         int likeFrom(int car, int first) {
+            if (car < 0 || car >= MAX_CARS || first < 0) {
+                return 0;
+            }
             int count = 0;
             for (int other = first; other < setup.cars; other++) {
                 if (color[other] == color[car] && setup.carBody[other] == setup.carBody[car]) {
@@ -1395,6 +1415,9 @@ public final class PaintBank {
             int run = line.run;
             for (int left = 0; left < total; left++) {
                 int lane = choice[keyOf(position, hose, run)];
+                if (lane < 0 || lane >= MAX_LANES) {
+                    return;
+                }
                 int car = line.lanes[lane].at(taken[lane]);
                 if (car < 0 || car >= MAX_CARS) {
                     return;
@@ -1435,9 +1458,8 @@ public final class PaintBank {
         private final Setup setup;
         private final Line line;
         private final int[] memo = new int[1 << MAX_CARS];
-        // For each body and color, a bit for each waiting car of this kind.
-        private final int[] jobsOfKind = new int[MAX_BODIES * MAX_COLORS];
-        private final int[] bodyAt = new int[MAX_CARS];
+        // For each place and color, a bit for each job of this color that suits the body there.
+        private final int[] jobsFor = new int[MAX_CARS * MAX_COLORS];
         private int count;
         private int plannedAt = -1;
         final Row best = new Row();
@@ -1453,17 +1475,27 @@ public final class PaintBank {
                 return;
             }
             plannedAt = line.edits;
-            count = line.waitingCount();
+            count = Math.min(line.waitingCount(), MAX_CARS);
             forgetWays();
-            Arrays.fill(jobsOfKind, 0);
+            Arrays.fill(jobsFor, 0);
             for (int place = 0; place < count; place++) {
-                int car = line.entered + place;
-                bodyAt[place] = setup.carBody[car];
-                jobsOfKind[bodyAt[place] * MAX_COLORS + line.color[car]] |= 1 << place;
+                for (int job = 0; job < count; job++) {
+                    offerJob(place, job);
+                }
             }
             colorChanges = fewestOfAll(waysFrom(0, 0));
             best.count = 0;
             collectColors();
+        }
+
+        private void offerJob(int place, int job) {
+            int color = line.colorOfCar(line.entered + job);
+            int body = setup.bodyOfCar(line.entered + job);
+            int slot = place * MAX_COLORS + color;
+            boolean suits = color != NONE && body == setup.bodyOfCar(line.entered + place);
+            if (suits && slot >= 0 && slot < jobsFor.length) {
+                jobsFor[slot] |= 1 << job;
+            }
         }
 
         private void forgetWays() {
@@ -1486,7 +1518,8 @@ public final class PaintBank {
                 int job = firstJob(color, place, used);
                 int fewest = IMPOSSIBLE;
                 if (job != NONE) {
-                    fewest = fewestBehind(color, waysFrom(place + 1, used | 1 << job));
+                    int behind = waysFrom(place + 1, used | 1 << job);
+                    fewest = Math.min(fewestOf(behind, color), fewestOfAll(behind) + 1);
                 }
                 ways |= fewest << color * BITS;
             }
@@ -1499,20 +1532,15 @@ public final class PaintBank {
          * be done with it, too. If it is too far away, the color cannot be had here.
          */
         private int firstJob(int color, int place, int used) {
-            if (color < 0 || color >= MAX_COLORS) {
+            if (color < 0 || color >= MAX_COLORS || place < 0 || place >= MAX_CARS) {
                 return NONE;
             }
-            int free = jobsOfKind[bodyAt[place] * MAX_COLORS + color] & ~used;
+            int free = jobsFor[place * MAX_COLORS + color] & ~used;
             if (free == 0) {
                 return NONE;
             }
             int job = Integer.bitCount((free & -free) - 1);
             return Math.abs(job - place) <= setup.span ? job : NONE;
-        }
-
-        private static int fewestBehind(int color, int ways) {
-            int withChange = Math.min(fewestOfAll(ways) + 1, IMPOSSIBLE);
-            return Math.min(fewestOf(ways, color), withChange);
         }
 
         private static int fewestOf(int ways, int color) {
@@ -1558,14 +1586,9 @@ public final class PaintBank {
         int carryOut() {
             int changed = 0;
             for (int place = 0; place < best.count; place++) {
-                int car = line.entered + place;
-                if (line.color[car] != best.at(place)) {
-                    line.color[car] = best.at(place);
+                if (line.recolor(line.entered + place, best.at(place))) {
                     changed++;
                 }
-            }
-            if (changed > 0) {
-                line.edits++;
             }
             return changed;
         }
@@ -1795,11 +1818,9 @@ public final class PaintBank {
         private void addCars(Setup setup, Line line, Row cars) {
             for (int i = 0; i < cars.count; i++) {
                 int car = cars.at(i);
-                if (car >= 0 && car < MAX_CARS) {
-                    add(' ');
-                    addLetters(setup.colorName[line.color[car]]);
-                    add('0' + setup.carBody[car]);
-                }
+                add(' ');
+                addLetters(setup.nameOfColor(line.colorOfCar(car)));
+                add('0' + setup.bodyOfCar(car));
             }
             add('\n');
         }
